@@ -775,7 +775,7 @@ public final class MinuteForTheUnread {
             }
         }
 
-        /** Puts the names' values down as they are for a citizen when those of a list count as READ. */
+        /** A list stands for who counts as READ: another than THE LIST, where one is asked for. */
         private void lookAt(int i, int list) {
             if (hasCitizen(i)) {
                 names[Texts.NUMBER] = numbers[i];
@@ -837,7 +837,7 @@ public final class MinuteForTheUnread {
             return Math.max(0, length - spentOn(everyone(), listed()));
         }
 
-        /** One SITTING: the minutes that no business took. */
+        /** One SITTING; what it answers are the minutes that no business took. */
         private int hold() {
             int left = minutesLeft();
             for (int i = 0; i < items; i++) {
@@ -926,8 +926,9 @@ public final class MinuteForTheUnread {
     }
 
     /**
-     * The TEXTS, each in the order in which it is worked out: what an operator works on stands ahead of
-     * it. A cell of 0 or more is a number, one of a name's is that name's row less than -1.
+     * The TEXTS, each in the order in which it is worked out (what an operator works on stands ahead of
+     * it), so that nothing has to be read anew. A cell of 0 or more is a number, -1 - n is the name of row
+     * n; below these stand the operators on one, and below those the operators on two.
      */
     private static final class Texts {
         private static final int MOST = 6, LONGEST = 160, MOST_MINUTES = 60;
@@ -987,7 +988,7 @@ public final class MinuteForTheUnread {
             return many++;
         }
 
-        /** What a TEXT tells in one of its parts: minutes, but for reads, keep within their bounds. */
+        /** Only minutes have bounds: reads is no more than yes or no, and one below 0 is a yes. */
         private int value(int text, int part, int[] names) {
             if (!hasText(text) || part < READS || part > NAMES) {
                 return 0;
@@ -1072,7 +1073,7 @@ public final class MinuteForTheUnread {
         private int readTape() {
             texts.begin();
             place = 0;
-            pass();
+            passToken();
             boolean whole = true;
             for (int part = 0; part < Texts.PARTS && whole; part++) {
                 whole = passed(WORD + READS + part) && readOr(0) && passed(';');
@@ -1086,14 +1087,14 @@ public final class MinuteForTheUnread {
             if (token != wanted) {
                 return false;
             }
-            pass();
+            passToken();
             return true;
         }
 
         private boolean readOr(int open) {
             boolean whole = readAnd(open);
             for (int i = 0; i < tape.length && whole && token == WORD + OR; i++) {
-                pass();
+                passToken();
                 whole = readAnd(open);
                 texts.put(Texts.OR);
             }
@@ -1103,7 +1104,7 @@ public final class MinuteForTheUnread {
         private boolean readAnd(int open) {
             boolean whole = readNot(open);
             for (int i = 0; i < tape.length && whole && token == WORD + AND; i++) {
-                pass();
+                passToken();
                 whole = readNot(open);
                 texts.put(Texts.AND);
             }
@@ -1117,7 +1118,7 @@ public final class MinuteForTheUnread {
             if (open >= MOST_OPEN) {
                 return false;
             }
-            pass();
+            passToken();
             boolean whole = readNot(open + 1);
             texts.put(Texts.NOT);
             return whole;
@@ -1129,7 +1130,7 @@ public final class MinuteForTheUnread {
                 return whole;
             }
             int cell = token == '<' ? Texts.LESS : Texts.EQUAL;
-            pass();
+            passToken();
             whole = readSum(open);
             texts.put(cell);
             return whole;
@@ -1139,7 +1140,7 @@ public final class MinuteForTheUnread {
             boolean whole = readTerm(open);
             for (int i = 0; i < tape.length && whole && (token == '+' || token == '-'); i++) {
                 int cell = token == '+' ? Texts.ADD : Texts.SUBTRACT;
-                pass();
+                passToken();
                 whole = readTerm(open);
                 texts.put(cell);
             }
@@ -1149,7 +1150,7 @@ public final class MinuteForTheUnread {
         private boolean readTerm(int open) {
             boolean whole = readOne(open);
             for (int i = 0; i < tape.length && whole && token == '*'; i++) {
-                pass();
+                passToken();
                 whole = readOne(open);
                 texts.put(Texts.MULTIPLY);
             }
@@ -1159,12 +1160,12 @@ public final class MinuteForTheUnread {
         private boolean readOne(int open) {
             if (token == NUMBER) {
                 texts.put(number);
-                pass();
+                passToken();
                 return true;
             }
             if (token >= WORD && token < WORD + Texts.ALL_NAMES) {
                 texts.put(Texts.cellOfName(token - WORD));
-                pass();
+                passToken();
                 return true;
             }
             if (open >= MOST_OPEN) {
@@ -1178,8 +1179,7 @@ public final class MinuteForTheUnread {
             return whole;
         }
 
-        /** Goes on to the next token. */
-        private void pass() {
+        private void passToken() {
             while (place < size && isBlank(tape[place])) {
                 place++;
             }

@@ -216,6 +216,7 @@ public final class PromisesTest {
         e("- 2 * - 5", 10);
         e("- (1 - 9)", 8);
         e("20 or 0", 1);
+        e("1 or 0", 1);
         e("0 or 0", 0);
         e("20 and 30", 1);
         e("20 and 0", 0);
@@ -287,6 +288,11 @@ public final class PromisesTest {
         fault("reads - not 2" + ends, 8);
         fault("reads 1 not" + ends, 8);
         fault("reads or" + ends, 6);
+        fault("weads 1" + ends, 0);
+        fault("readsz 1" + ends, 0);
+        fault("reads sank" + ends, 6);
+        fault("reads \u0002" + ends, 6);
+        fault("reads 1 ; stills 3 ; names 1 ;\u0000", 30);
         fault("reads * 2" + ends, 6);
         fault("reads (1" + ends, 9);
         fault("reads 1)" + ends, 7);
@@ -641,6 +647,17 @@ public final class PromisesTest {
         due("drawn(0)", x.drawn(0), 1);
         due("BRIBES stay", x.told(0, 3), 7);
         due("of none", made().drawn(5), 0);
+        MinuteForTheUnread z = with(c(0, 0, 0));
+        text(z, "reads bribe = 24; stills 1; names 1;");
+        text(z, "reads bribe = 0; stills 1; names 1;");
+        z.force(1);
+        due("the first by SEED 0", z.drawn(0), 1);
+        int seed = 0;
+        while ((seed * 1103515245 + 12345 >>> 9) % 100 != 0) {
+            seed++;
+        }
+        z.force(2);
+        due("a BRIBE of 0 by SEED " + seed, z.drawn(seed), 1);
         MinuteForTheUnread y = with(c(1, 0, 0), c(5, 0, 0), c(3, 1, 0));
         due("by KINDS", y.drawn(MIN), 2);
     }
@@ -664,6 +681,8 @@ public final class PromisesTest {
         due("all above", x.chance(MAX, 6, 0), 1);
         due("all below", x.chance(MAX, 6, 1), 1);
         long no = -4611686018427387904L;
+        due("of 2 all", x.chance(7, 2, 1), 1);
+        due("m 1", x.chance(7, 1, 0), 1);
         due("m 0", x.chance(0, 0, 0), no);
         due("m 21", x.chance(0, 21, 0), no);
         due("m MIN", x.chance(0, MIN, 0), no);
