@@ -17,7 +17,7 @@ public final class ModelTest {
 
     private static String expression(int depth) {
         String[] names = {"number", "bribe", "sitting", "read", "rank", "asked"};
-        int kind = depth == 0 ? draw(3) : draw(12);
+        int kind = depth == 0 ? draw(3) : draw(13);
         switch (kind) {
             case 0: case 1: return names[draw(6)];
             case 2: return "" + (draw(5) == 0 ? draw(10000) : draw(30));
@@ -29,6 +29,7 @@ public final class ModelTest {
             case 8: return expression(depth - 1) + "+" + expression(depth - 1);
             case 9: return expression(depth - 1) + "*" + expression(depth - 1);
             case 10: return "-" + expression(depth - 1);
+            case 11: return expression(depth - 1) + " - " + expression(depth - 1);
             default: return "(" + expression(depth - 1) + ")";
         }
     }
@@ -48,6 +49,14 @@ public final class ModelTest {
         int from = draw(text.length() + 1);
         int to = Math.min(text.length(), from + draw(3));
         return text.substring(0, from) + pieces[draw(pieces.length)] + text.substring(to);
+    }
+
+    /** A KIND or a NUMBER where they are asked for, so that rows that are copied show as CITIZENS. */
+    private static int cellValue() {
+        if (draw(6) == 0) {
+            return draw(6) + (draw(2) == 0 ? 256 : 65536) * (draw(5) - 2);
+        }
+        return draw(4) == 0 ? number(-40000, 70000) : draw(2) == 0 ? number(0, 40) : number(0, 9);
     }
 
     private static String call(Check check, MinuteForTheUnread x, Model y) {
@@ -135,21 +144,21 @@ public final class ModelTest {
         switch (draw(6)) {
             case 0:
                 b = number(-1, 2);
-                c = draw(3) == 0 ? 1 : number(0, 40);
+                c = draw(3) == 0 ? 1 : draw(2) == 0 ? number(0, 40) : number(6, 12);
                 return due(check, "sheet(" + a + ", " + b + ", " + c + ")", x.sheet(a, b, c), y.sheet(a, b, c));
             case 1: case 2:
-                b = draw(2) == 0 ? 0 : number(0, 39);
-                c = draw(4) == 0 ? number(-40000, 70000) : number(0, 40);
+                b = draw(2) == 0 ? 0 : number(0, draw(3) == 0 ? 39 : 9);
+                c = cellValue();
                 return due(check, "cell(" + a + ", " + b + ", " + c + ")", x.cell(a, b, c), y.cell(a, b, c));
             case 3:
-                c = number(0, 20);
-                d = number(0, 20);
-                int n = number(0, 10);
+                c = number(0, 6);
+                d = number(0, 6);
+                int n = number(0, 6);
                 return due(check, "copy(" + a + ", " + c + ", " + b + ", " + d + ", " + n + ")",
                     x.copy(a, c, b, d, n), y.copy(a, c, b, d, n));
             case 4:
-                c = number(0, 20);
-                d = number(0, 8);
+                c = number(0, 9);
+                d = draw(2) == 0 ? number(0, 8) : number(1, 3);
                 return due(check, "citizens(" + a + ", " + b + ", " + c + ", " + d + ")",
                     x.citizens(a, b, c, d), y.citizens(a, b, c, d));
             default:
@@ -164,8 +173,7 @@ public final class ModelTest {
         return call + " -> " + want;
     }
 
-    private static int feedText(Check check, MinuteForTheUnread x, Model y) {
-        String text = text();
+    private static int feedText(Check check, MinuteForTheUnread x, Model y, String text) {
         for (int i = 0; i < text.length(); i++) {
             check.due("feed(" + (int) text.charAt(i) + ")", x.feed(text.charAt(i)), y.feed(text.charAt(i)));
         }
@@ -186,7 +194,7 @@ public final class ModelTest {
             if (textsLeft > 0 && done >= ready) {
                 textsLeft--;
                 ready += 30;
-                done += feedText(check, x, y);
+                done += feedText(check, x, y, text());
                 check.due("force(1)", x.force(1), y.force(1));
                 continue;
             }
@@ -198,20 +206,66 @@ public final class ModelTest {
         }
     }
 
+    /** The host's calls alone, on SHEETS that are all there at first; all who come by them are looked at, and go. */
+    private static void host(Check check, int run) {
+        seed = 7919L * run + 3;
+        check.about("drawn host's run " + run);
+        MinuteForTheUnread x = new MinuteForTheUnread();
+        Model y = new Model();
+        due(check, "image()", x.image(), y.image());
+        int sort = draw(3);
+        for (int sheet = 0; sheet < 4; sheet++) {
+            int n = 4 + draw(9);
+            due(check, "sheet(" + sheet + ", " + sort + ", " + n + ")", x.sheet(sheet, sort, n), y.sheet(sheet, sort, n));
+        }
+        for (int done = 0; done < 20; done++) {
+            for (int i = 0; i < 8; i++) {
+                callHost(check, x, y);
+            }
+            for (int i = 0; i < y.count(0); i++) {
+                check.due("told(" + i + ", 2)", x.told(i, 2), y.told(i, 2));
+                check.due("told(" + i + ", 4)", x.told(i, 4), y.told(i, 4));
+            }
+            due(check, "back()", x.back(), y.back());
+        }
+    }
+
     /** Texts alone, in great number, each on a new object: numbers and FAULTS. */
     private static void texts(Check check) {
         check.about("drawn texts");
         seed = 99;
         for (int i = 0; i < 20000; i++) {
-            feedText(check, new MinuteForTheUnread(), new Model());
+            feedText(check, new MinuteForTheUnread(), new Model(), text());
+        }
+    }
+
+    /** Bytes of all sorts till THE TAPE is full and further, then texts till no more have room. */
+    private static void tapes(Check check) {
+        check.about("drawn tapes");
+        for (int i = 0; i < 200; i++) {
+            seed = i;
+            MinuteForTheUnread x = new MinuteForTheUnread();
+            Model y = new Model();
+            for (int fed = 0; fed < 170; fed++) {
+                int letter = number(0, 255);
+                check.due("feed(" + letter + ")", x.feed(letter), y.feed(letter));
+            }
+            check.due("text()", x.text(), y.text());
+            for (int t = 0; t < 6; t++) {
+                String text = "reads " + expression(0) + ";stills " + expression(0) + ";names " + expression(0) + ";";
+                feedText(check, x, y, text);
+                check.due("count(4)", x.count(4), y.count(4));
+            }
         }
     }
 
     public static void main(String[] args) {
         Check check = new Check();
         texts(check);
+        tapes(check);
         for (int run = 0; run < RUNS && check.isRight(); run++) {
             run(check, run);
+            host(check, run);
         }
         check.close("ModelTest");
     }
