@@ -1,43 +1,5 @@
 /** Promise by promise: ordinary calls, the edges that the document names, wrong calls. */
-public final class PromisesTest {
-    private static final int MIN = Integer.MIN_VALUE, MAX = Integer.MAX_VALUE;
-    private static final Check check = new Check();
-
-    private static MinuteForTheUnread made() {
-        return new MinuteForTheUnread();
-    }
-
-    /** Citizens by kinds and numbers: {kind, number, bribe}. */
-    private static MinuteForTheUnread with(int[]... citizens) {
-        MinuteForTheUnread x = made();
-        for (int i = 0; i < citizens.length; i++) {
-            x.citizen(citizens[i][0], citizens[i][1]);
-            x.set(3, i, citizens[i][2]);
-        }
-        return x;
-    }
-
-    private static int[] c(int kind, int number, int bribe) {
-        return new int[] {kind, number, bribe};
-    }
-
-    private static int feed(MinuteForTheUnread x, String text) {
-        int last = 0;
-        for (int i = 0; i < text.length(); i++) {
-            last = x.feed(text.charAt(i));
-        }
-        return last;
-    }
-
-    private static int text(MinuteForTheUnread x, String text) {
-        feed(x, text);
-        return x.text();
-    }
-
-    private static void due(String call, long got, long want) {
-        check.due(call, got, want);
-    }
-
+public final class PromisesTest extends Scene {
     /** What reads, stills and names of a text tell of the one citizen, by list(2) and list(3) alone. */
     private static void e(String expression, int want) {
         MinuteForTheUnread x = with(c(0, 7, 42), c(1, 0, 0), c(0, 3, 20));
