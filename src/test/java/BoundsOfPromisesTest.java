@@ -70,6 +70,16 @@ public final class BoundsOfPromisesTest extends Scene {
         MinuteForTheUnread y = with(c(CITIZEN, 1, 2));
         answered("NUMBER", v -> y.set(2, 0, v), 0, 9, -2);
         answered("BRIBE", v -> y.set(3, 0, v), 0, 99, -2);
+        for (int what = 0; what <= 3; what++) {
+            MinuteForTheUnread one = with(c(CITIZEN, 1, 2), c(NOBLE, 3, 4));
+            one.set(what, 1, 8);
+            int[] was = {0, 60, 3, 4, 1};
+            for (int other = 0; other <= 4; other++) {
+                due("set(" + what + ", 1, 8) and what " + other, one.told(1, other), other == what ? 8 : was[other]);
+            }
+            due("the other's NUMBER", one.told(0, 2), 1);
+            due("the other's BRIBE", one.told(0, 3), 2);
+        }
         MinuteForTheUnread z = made();
         for (int of : WILD) {
             due("SITTING, of " + of, z.set(0, of, 999), 0);
@@ -859,6 +869,30 @@ public final class BoundsOfPromisesTest extends Scene {
         due("missing between: NUMBER 0", x.told(0, 2), 0);
     }
 
+    private static void promise26others() {
+        check.about("promise 26: A SHEET becomes a row: the others stay");
+        for (int sheet = 0; sheet <= 3; sheet++) {
+            MinuteForTheUnread x = made();
+            for (int other = 0; other <= 3; other++) {
+                row(x, other, 2, 4, 5);
+            }
+            x.sheet(sheet, 0, 40);
+            for (int i = 0; i < 40; i++) {
+                x.cell(sheet, i, 3);
+            }
+            x.copy(sheet, 0, sheet, 1, 39);
+            x.film(sheet);
+            x.sheet(sheet, 2, 40);
+            x.sheet(sheet, -1, 0);
+            for (int other = 0; other <= 3; other++) {
+                int last = x.count(0);
+                due("SHEET " + other, x.citizens(other, 2, 0, 1), other == sheet ? -11 : 1);
+                due("its first", x.told(last, 4), other == sheet ? -2 : 4);
+                due("its second", x.told(last, 2), other == sheet ? -2 : 5);
+            }
+        }
+    }
+
     private static void promise27() {
         check.about("promise 27: BAD: no such SHEET; -11; -12");
         MinuteForTheUnread x = made();
@@ -1121,6 +1155,7 @@ public final class BoundsOfPromisesTest extends Scene {
         promises23and24();
         promise25();
         promise26();
+        promise26others();
         promise27();
         promise28();
         promise29();

@@ -215,12 +215,34 @@ public final class BoundsOfTermsTest extends Scene {
         due("that ends too early", text(made(), text + blanks(160 - text.length())), -260);
         due("with a last byte that can't stand there", text(made(), text + ";" + blanks(134) + "1"), -259);
         due("empty", made().text(), -100);
+        due("that ends in a WORD", text(made(), blanks(155) + "reads"), -260);
+        due("that ends in no WORD", text(made(), blanks(155) + "bribe"), -255);
+        due("that ends in a NUMBER", text(made(), "reads" + blanks(151) + "9999"), -260);
+        due("that ends in a NUMBER that is too long", text(made(), "reads" + blanks(150) + "99999"), -255);
+        due("that ends in a (", text(made(), "reads" + blanks(154) + "("), -260);
         String numbers = "1" + "+1".repeat(67);
         x = made();
         x.citizen(CITIZEN, 0);
         due("as many TOKENS as can be", text(x, "reads " + numbers + ";stills 2;names 3;"), 1);
         x.force(1);
         due("who is READ by it", x.list(0), 1);
+    }
+
+    private static void emptyTape() {
+        check.about("THE TAPE, which is empty then: nothing of what stood there is read again");
+        String[] before = {"reads".repeat(30), "9".repeat(150), " ".repeat(150), "(".repeat(150), ";".repeat(150)};
+        String[] texts = {"reads", "reads 1", "reads 1;stills 1;names 9999", "reads (", "reads 1 ", "reads 1;stills 1;names 1",
+            "", "reads 1;stills 1;names not"};
+        for (String first : before) {
+            for (String then : texts) {
+                MinuteForTheUnread x = made();
+                text(x, first);
+                due("<" + then + "> behind <" + first + ">", text(x, then), -100 - then.length());
+            }
+            MinuteForTheUnread x = made();
+            text(x, first);
+            due("a TEXT behind <" + first + ">", text(x, "reads 1;stills 1;names 1;"), 1);
+        }
     }
 
     private static void fault(String text, int place) {
@@ -285,6 +307,17 @@ public final class BoundsOfTermsTest extends Scene {
         fault("reads 1\n2;stills 1;names 1;", 8);
     }
 
+    /** A word with each of its letters in turn another one, without its last, and with one more. */
+    private static String[] misspelt(String word) {
+        String[] all = new String[word.length() + 2];
+        for (int i = 0; i < word.length(); i++) {
+            all[i] = word.substring(0, i) + "q" + word.substring(i + 1);
+        }
+        all[word.length()] = word + "q";
+        all[word.length() + 1] = "q" + word;
+        return all;
+    }
+
     private static void words() {
         String[] names = {"number", "bribe", "sitting", "read", "rank", "asked"};
         String[] keys = {"reads", "stills", "names", "or", "and", "not"};
@@ -294,6 +327,28 @@ public final class BoundsOfTermsTest extends Scene {
             fault("reads 1 + " + name + "s;stills 1;names 1;", 10);
             fault("reads 1 + " + name.substring(1) + ";stills 1;names 1;", 10);
             fault("reads 1 " + name + ";stills 1;names 1;", 8);
+        }
+        for (String name : names) {
+            for (String other : misspelt(name)) {
+                fault("reads 1 + " + other + ";stills 1;names 1;", 10);
+            }
+        }
+        for (String key : new String[] {"or", "and"}) {
+            for (String other : misspelt(key)) {
+                fault("reads 1 " + other + " 1;stills 1;names 1;", 8);
+            }
+        }
+        for (String other : misspelt("reads")) {
+            fault(other + " 1;stills 1;names 1;", 0);
+        }
+        for (String other : misspelt("stills")) {
+            fault("reads 1;" + other + " 1;names 1;", 8);
+        }
+        for (String other : misspelt("names")) {
+            fault("reads 1;stills 1;" + other + " 1;", 17);
+        }
+        for (String other : misspelt("not")) {
+            fault("reads " + other + " 1;stills 1;names 1;", 6);
         }
         check.about("the first TOKEN that can't stand there");
         for (String key : keys) {
@@ -425,6 +480,12 @@ public final class BoundsOfTermsTest extends Scene {
         value("-(256*256*256*128-1)-2", least + "-1");
         value("9999*9999", "999*9999*10+9*9999");
         value("9999*9999*9999<0", "1");
+        value("4 - - 3", "7");
+        value("4 - - - 3", "1");
+        value("2 * - 5", "0 - 10");
+        value("1 + 2 * - (3 - 5)", "5");
+        value("- 2 - - 2 * - 2", "0 - 6");
+        value("1 + (not 0) * 5", "6");
         check.about("of or, and, not, <, = 1 or 0 (what is not 0 is true)");
         value(least + "<1", "1");
         value("1<" + least, "0");
@@ -573,6 +634,7 @@ public final class BoundsOfTermsTest extends Scene {
         silencesAndTimes();
         timeOfOrphan();
         tape();
+        emptyTape();
         tokens();
         bytes();
         words();

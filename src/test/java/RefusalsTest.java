@@ -245,7 +245,8 @@ public final class RefusalsTest extends Scene {
 
     private static void fault() {
         check.about("a FAULT leaves nothing but an empty TAPE");
-        String[] faults = {"", "r", "reads 9;stills 9;names 9", "reads 9;stills 9;names 9;9", "reads ((((((", "reads 1+2*3"};
+        String[] faults = {"", "r", "reads 9;stills 9;names 9", "reads 9;stills 9;names 9;9", "reads ((((((", "reads 1+2*3",
+            "reads 1+1*-1?", "reads 1;stills 1;names 1+1+1+1?", "reads 1+1;stills not 1;names not 1?", "reads 7*7*-7-7-7*not"};
         for (String fault : faults) {
             MinuteForTheUnread x = with(c(CITIZEN, 1, 2), c(POOR, 3, 4));
             x.force(text(x, "reads rank;stills 4+rank;names 5-rank;"));
@@ -254,6 +255,12 @@ public final class RefusalsTest extends Scene {
             due("text() of <" + fault + "> is a FAULT", text(x, fault) <= -100 ? 1 : 0, 1);
             for (int what = 0; what <= 4; what++) {
                 due("list(" + what + ") behind <" + fault + ">", x.list(what), y.list(what));
+            }
+            due("the next TEXT", text(x, "reads 1;stills 2;names 3;"), text(y, "reads 1;stills 2;names 3;"));
+            x.force(2);
+            y.force(2);
+            for (int what = 0; what <= 4; what++) {
+                due("list(" + what + ") by the next TEXT behind <" + fault + ">", x.list(what), y.list(what));
             }
             String want = allOf(y);
             String got = allOf(x);
