@@ -214,6 +214,12 @@ public final class BoundsOfPromisesTest extends Scene {
         due("how many, all", eight(NOBLE, 0, 0).list(1), 8);
         due("SILENCE, none", eight(NOBLE, 0, 0).list(2), 0);
         due("TIME, none", eight(DEAD, 0, 0).list(3), 0);
+        MinuteForTheUnread mixed = by("not read=2", "10*read", "1+read", c(0, 0, 0), c(DEAD, 0, 0), c(0, 0, 0), c(0, 0, 0),
+            c(NOBLE, 0, 0), c(POOR, 0, 0), c(ORPHAN, 9, 0));
+        due("some are READ", mixed.list(0), 1 + 4 + 16);
+        due("SILENCE of the others, by those ahead", mixed.list(2), 1 + 20 + 30 / 2 + 30 / 2 + 2);
+        due("TIME of those, by those ahead", mixed.list(3), 1 + 2 + 3);
+        due("minutes left by both", mixed.list(4), 1);
         MinuteForTheUnread y = by("1", "60", "60");
         for (int i : EIGHT) {
             y.citizen(HEIR, 9);
@@ -467,6 +473,14 @@ public final class BoundsOfPromisesTest extends Scene {
         for (int number = 0; number <= 9; number++) {
             due("ORPHAN of NUMBER " + number, by("0", "1", "1", c(ORPHAN, number, 0)).bribe(0), 10 * number);
         }
+        for (int ahead = 0; ahead <= 3; ahead++) {
+            MinuteForTheUnread x = by("10*read<bribe", "1", "1", c(0, 0, 0), c(0, 0, 0), c(0, 0, 0), c(0, 0, 0));
+            for (int i = 0; i < ahead; i++) {
+                x.set(3, i, 99);
+            }
+            due("by those ahead who are READ, " + ahead, x.bribe(3), 10 * ahead + 1);
+            due("BRIBE stays", x.told(3, 3), 0);
+        }
         answered("citizen", i -> eight(CITIZEN, 0, 0).bribe(i), 0, 7, -2);
         answered("citizen of two", i -> with(c(NOBLE, 0, 0), c(DEAD, 0, 0)).bribe(i), 0, 1, -2);
         due("no CITIZENS", made().bribe(0), -2);
@@ -640,6 +654,16 @@ public final class BoundsOfPromisesTest extends Scene {
         due("99 alone, the least", told(by("bribe=99", "3", "1", c(CITIZEN, 0, 0)), 1, 40), 99);
         due("none above 99", told(by("99<bribe", "3", "1", c(CITIZEN, 0, 0)), 1, 30), 0);
         due("of the eighth", told(eight(CITIZEN, 0, 0), 22, 37), 99);
+        due("of the eighth, the least", told(eight(CITIZEN, 0, 0), 22, 47), 1);
+        due("of the eighth, KINDS", told(eight(CITIZEN, 0, 0), 22, 17), 2 + 4 + 16 + 32);
+        due("of the eighth, NUMBERS", told(eight(NOBLE, 0, 0), 8 + 7, 27), 1 << 7);
+        MinuteForTheUnread two = with(c(CITIZEN, 5, 0), c(NOBLE, 0, 0));
+        due("KINDS of the first", told(two, 7, 10), 1 << NOBLE | 1 << HEIR);
+        due("KINDS of the second", told(two, 9, 11), 1 << HEIR);
+        due("NUMBERS of the second alone", told(two, 10, 21), 1 << 6);
+        due("NUMBERS of the first do not matter", told(two, 4, 20), 1023);
+        due("BRIBES of the first alone", told(two, 2, 30), 99);
+        due("BRIBES of the second do not matter", told(two, 4, 31), 100);
     }
 
     private static void promise20() {

@@ -157,6 +157,18 @@ public final class BoundsOfTermsTest extends Scene {
         }
     }
 
+    private static void readAmongOthers() {
+        check.about("IS READ: by one's own NUMBER, BRIBE, KIND");
+        MinuteForTheUnread x = by("1", "1", "1", c(POOR, 9, 99), c(POOR, 9, 0), c(HEIR, 1, 0), c(HEIR, 0, 0), c(ORPHAN, 0, 0),
+            c(ORPHAN, 1, 0), c(DEAD, 0, 99), c(POOR, 0, 1));
+        int[] read = {1, 0, 1, 0, 1, 0, 0, 1};
+        for (int i = 0; i < 8; i++) {
+            due(i + " IS READ", x.told(i, 5), read[i]);
+        }
+        MinuteForTheUnread y = by("0", "1", "1", c(ORPHAN, 9, 0), c(ORPHAN, 5, 50), c(ORPHAN, 5, 49), c(HEIR, 0, 0), c(HEIR, 9, 0));
+        due("THE LIST", y.list(0), 2 + 16);
+    }
+
     // ---- how long
 
     private static void silencesAndTimes() {
@@ -430,6 +442,28 @@ public final class BoundsOfTermsTest extends Scene {
         fault("reads 1;stills 1;names ((((((", 28);
     }
 
+    private static void openBehind() {
+        check.about("a ( , a not, a - ahead of a ONE while 5 of these are open: behind each operator");
+        String rest = ";stills 1;names 1;";
+        for (String sign : new String[] {"or", "and", "<", "=", "+", "-", "*"}) {
+            String behind = "1 " + sign + " ";
+            int sixth = 6 + 5 + behind.length();
+            fault("reads (((((" + behind + "(1))))))" + rest, sixth);
+            fault("reads (((((" + behind + "-1)))))" + rest, sixth);
+            whole("reads ((((" + behind + "(1)))))" + rest);
+            whole("reads ((((" + behind + "-1))))" + rest);
+            whole("reads (((((" + behind + "1)))))" + rest);
+        }
+        for (String word : new String[] {"or", "and"}) {
+            fault("reads (((((1 " + word + " not 1)))))" + rest, 14 + word.length());
+            whole("reads ((((1 " + word + " not 1))))" + rest);
+        }
+        fault("reads (((((1 or 1 or (1))))))" + rest, 21);
+        fault("reads (((((1 and 1 and (1))))))" + rest, 23);
+        fault("reads (((((1 + 1 + (1))))))" + rest, 19);
+        fault("reads (((((1 * 1 * (1))))))" + rest, 19);
+    }
+
     private static void closed() {
         check.about("(a ( till its ) , not and - till what they belong to ends)");
         String rest = ";stills 1;names 1;";
@@ -542,6 +576,15 @@ public final class BoundsOfTermsTest extends Scene {
         name("rank", x -> some(x, 8, 0, 0, 0), 7);
         name("asked", x -> some(x, 1, 0, 0, 0), 1);
         name("asked", x -> some(x, 8, 0, 0, 0), 8);
+        String[] names = {"number", "bribe", "rank", "asked"};
+        int[][] ofEach = {{1, 2, 3}, {6, 5, 4}, {0, 1, 2}, {3, 3, 3}};
+        for (int n = 0; n < names.length; n++) {
+            MinuteForTheUnread x = by("1", names[n], names[n], c(CITIZEN, 1, 6), c(CITIZEN, 2, 5), c(CITIZEN, 3, 4));
+            for (int i = 0; i < 3; i++) {
+                due("SILENCE by " + names[n] + " of " + i, x.told(i, 6), ofEach[n][i]);
+                due("TIME by " + names[n] + " of " + i, x.told(i, 7), ofEach[n][i]);
+            }
+        }
         MinuteForTheUnread y = by("1000<sitting", "0", "1", c(CITIZEN, 0, 0));
         y.set(0, 0, 999);
         y.set(1, 0, 1);
@@ -559,10 +602,14 @@ public final class BoundsOfTermsTest extends Scene {
         for (int i = 0; i < 8; i++) {
             due("SILENCE of " + i + ", READ or not", x.told(i, 6), ahead[i]);
             due("TIME of " + i + ", READ or not", x.told(i, 7), ahead[i]);
+            due("whether " + i + " IS READ", x.told(i, 5), i == 3 ? 0 : 1);
         }
         due("THE LIST", x.list(0), 255 - 8);
         MinuteForTheUnread y = by("read=0", "1", "1", c(0, 0, 0), c(0, 0, 0), c(1, 0, 0), c(0, 0, 0));
         due("THE LIST (read: by those ahead)", y.list(0), 1 + 4);
+        for (int i = 0; i < 4; i++) {
+            due("whether " + i + " IS READ (read: by those ahead)", y.told(i, 5), i % 2 == 0 ? 1 : 0);
+        }
         MinuteForTheUnread z = by("read=7", "1", "1", c(1, 0, 0), c(1, 0, 0), c(1, 0, 0), c(1, 0, 0), c(1, 0, 0), c(1, 0, 0),
             c(1, 0, 0), c(0, 0, 0));
         due("seven ahead", z.list(0), 255);
@@ -631,6 +678,7 @@ public final class BoundsOfTermsTest extends Scene {
         readByYes();
         readOfHeir();
         readOfOrphan();
+        readAmongOthers();
         silencesAndTimes();
         timeOfOrphan();
         tape();
@@ -641,6 +689,7 @@ public final class BoundsOfTermsTest extends Scene {
         endsTooEarly();
         grammar();
         open();
+        openBehind();
         closed();
         wraps();
         names();
