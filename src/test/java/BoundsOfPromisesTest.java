@@ -949,6 +949,22 @@ public final class BoundsOfPromisesTest extends Scene {
         }
     }
 
+    /** The highest of the lowest bits is a sign, as in Java's own bytes and shorts. */
+    private static void promise27signs() {
+        check.about("promise 27: of bytes its lowest 8 bits (with Java's sign)");
+        int[] minutes = {0, 1, 127, 128, 129, 200, 255, 256, 257};
+        for (int m : minutes) {
+            String stills = "(" + m + "-60*rank)*(60*rank<" + m + "+1)";
+            MinuteForTheUnread x = by("0", stills, "60", c(0, 0, 0), c(0, 0, 0), c(0, 0, 0), c(0, 0, 0), c(0, 0, 0));
+            due(m + " are gone", x.by(0), m);
+            for (int sort = 0; sort <= 2; sort++) {
+                row(x, sort, sort, m);
+                boolean kept = sort > 0 || m <= 127;
+                due("it tells " + m + " by sort " + sort, x.tells(sort, 1) == 0 ? 1 : 0, kept ? 1 : 0);
+            }
+        }
+    }
+
     private static MinuteForTheUnread rows() {
         MinuteForTheUnread x = made();
         x.image();
@@ -1181,6 +1197,7 @@ public final class BoundsOfPromisesTest extends Scene {
         promise26();
         promise26others();
         promise27();
+        promise27signs();
         promise28();
         promise29();
         promise30();
